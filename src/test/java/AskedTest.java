@@ -36,6 +36,22 @@ final class AskedTest {
         c.same("TALL of the second", x.size(0, 1, 1, true), 61 / 8.0);
     }
 
+    static void promise18SizeOfEveryPart(Check c) {
+        int[] measures = {56, 72, 101, 187};
+        for (int m = 0; m < 4; m++) {
+            for (int eighths = 1; eighths <= 8; eighths++) {
+                TailorBench x = new TailorBench();
+                x.person(measures[0], measures[1], measures[2], measures[3]);
+                x.style();
+                x.piece(0, 10 * m + eighths, 1, 0, 1);
+                x.piece(0, 1, 10 * m + eighths, 40, 1);
+                double due = measures[m] * eighths / 8.0;
+                c.same("across " + m + ", " + eighths, x.size(0, 0, 0, false), due);
+                c.same("along " + m + ", " + eighths, x.size(0, 1, 0, true), due);
+            }
+        }
+    }
+
     static void promise18SizeRefuses(Check c) {
         TailorBench x = Shops.told();
         c.refused("size(-1, 0, 0)", x, Check.INDEX, () -> x.size(-1, 0, 0, true));

@@ -28,11 +28,15 @@ final class LayTest {
     static void promise25GreatestLongGoesFirst(Check c) {
         lies(c, "33 then 83", 100, 0, true, due(83, 1, 0),
                 Shops.sized(33, 33, 1), Shops.sized(53, 83, 1));
+        lies(c, "33 then 83, each in a ROW", 100, 0, true, due(116, 2, 0),
+                Shops.sized(60, 33, 1), Shops.sized(53, 83, 1));
     }
 
     static void promise25GreatestWideGoesFirstOfEqualLong(Check c) {
         lies(c, "40, 30, 60, 70", 100, 0, true, due(166, 2, 0), Shops.sized(40, 83, 1),
                 Shops.sized(30, 83, 1), Shops.sized(60, 83, 1), Shops.sized(70, 83, 1));
+        lies(c, "70, 40, 60, 30", 100, 0, true, due(166, 2, 0), Shops.sized(70, 83, 1),
+                Shops.sized(40, 83, 1), Shops.sized(60, 83, 1), Shops.sized(30, 83, 1));
     }
 
     static void promise25FirstRowWithRoomIsTaken(Check c) {

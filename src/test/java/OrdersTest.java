@@ -309,6 +309,7 @@ final class OrdersTest {
         c.same("of 9", toGive(false, 0, 9, 0, 1).give(0), 20 + 20 - 6);
         c.same("just 4", toGive(false, 20, 5, 0, 1).give(0), 20 + 20 - 4);
         c.same("4.8", toGive(false, 20, 6, 0, 1).give(0), 20 + 20 - 5);
+        c.same("5.04", toGive(false, 0, 8, 0, 1).give(0), 20 + 20 - 6);
     }
 
     static void promise13GiveSharesTheCloth(Check c) {
@@ -347,6 +348,16 @@ final class OrdersTest {
         y.pass(7);
         y.fit(0);
         c.same("7.5 late", y.give(0), 20 + 10 - 2);
+    }
+
+    static void promise13LatenessIsBeyondDue(Check c) {
+        TailorBench x = Shops.ready();
+        x.order(0, 0, 10);
+        x.cut(0, NONE, 0);
+        x.sew(0, 0);
+        x.pass(34);
+        x.fit(0);
+        c.same("34.5, DUE at 10", x.give(0), 20 + 10 - 2 - 9);
     }
 
     static void promise13PurseMayBeBelowZero(Check c) {

@@ -85,6 +85,22 @@ final class WouldBeTest {
         c.same("none is TOLD", x.mate(0, 0), NONE);
     }
 
+    static void promise27LittleIsSaved(Check c) {
+        TailorBench x = Shops.orderOf(Shops.sized(60, 83, 1));
+        x.measure(0, 2, 81);
+        x.style();
+        int[] one = Shops.sized(60, 73, 1);
+        x.piece(1, one[0], one[1], one[2], one[3]);
+        // LONG 81 * 7 / 8.0 + 3.0, WIDE 40: alone in the ROW of its own STYLE, else in that of 83.
+        int[] other = Shops.sized(40, 73, 1);
+        x.piece(1, other[0], 27, other[2], 1);
+        x.order(0, 1, 0);
+        x.cloth(100, 0, 0, 0, true, 1);
+        c.same("alone", x.lay(1, NONE, 0, 0), 73.875);
+        c.same("both", x.lay(0, 1, 0, 0), 156.0);
+        c.same("0.875 is saved", x.mate(0, 0), 1);
+    }
+
     static void promise27NothingIsSaved(Check c) {
         TailorBench x = Shops.orderOf(Shops.sized(83, 83, 1));
         x.cloth(100, 0, 0, 0, true, 1);
@@ -144,12 +160,16 @@ final class WouldBeTest {
 
     static void promise29DigestIsOfAllAnswers(Check c) {
         TailorBench x = Shops.fitted();
-        x.order(0, 0, 3);
-        x.cloth(60, 77, 5, 0, true, 3);
+        x.style();
+        x.piece(1, 8, 8, 0, 1);
+        x.piece(1, 14, 8, 3, 2);
+        x.order(0, 1, 3);
+        x.cloth(90, 77, 5, 0, true, 3);
         x.hand(3);
         x.cut(1, NONE, 0);
         x.sew(1, 1);
         x.measure(0, 0, 83);
+        c.that("TIGHT is of two kinds", x.tight(1, true) != x.tight(1, false));
         x.give(0);
         x.bell();
         long d = 58315L;
