@@ -17,7 +17,7 @@ public final class TailorBench {
     private static final int MOST_ORDERS = 8;
     /** Two ORDERS are the most that lie together. */
     private static final int MOST_LAID = 2 * MOST_PIECES * MOST_COUNT;
-    private static final double LAST_HOUR = 2000.0;
+    private static final int LAST_HOUR = 2000;
 
     private static final int TOLD = 0;
     private static final int CUT = 1;
@@ -31,8 +31,8 @@ public final class TailorBench {
     private static final int TAKEN_IN = 2;
     private static final int TOO_TIGHT = 3;
 
-    private static final double NO_LAY = -2.0;
-    private static final double TOO_SHORT = -3.0;
+    private static final int NO_LAY = -2;
+    private static final int TOO_SHORT = -3;
     private static final int NOT_READY = -2;
 
     private final Cloth[] cloths = new Cloth[MOST_CLOTHS];

@@ -43,6 +43,10 @@ final class FaceTest {
             "int soonest(int) " + I,
             "long digest()");
 
+    /** Of rule 5, those kinds of static fields that this program has a use for. */
+    private static final Set<Class<?>> CONSTANTS = Set.of(
+            int.class, long.class, boolean.class, char.class, String.class);
+
     private FaceTest() {
     }
 
@@ -112,6 +116,8 @@ final class FaceTest {
         for (Field field : one.getDeclaredFields()) {
             if (Modifier.isStatic(field.getModifiers())) {
                 c.that(field + " is final", Modifier.isFinal(field.getModifiers()));
+                c.that(field + " is of a kind that a constant may be of",
+                        CONSTANTS.contains(field.getType()));
             } else {
                 fields++;
             }
