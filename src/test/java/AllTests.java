@@ -10,7 +10,8 @@ import java.util.List;
 public final class AllTests {
     private static final List<Class<?>> CLASSES = List.of(
             ClothsPeopleStylesTest.class, OrdersTest.class, AskedTest.class, LayTest.class,
-            WouldBeTest.class, FaceTest.class, LanguageTest.class, ModelTest.class);
+            WouldBeTest.class, EdgesTest.class, LayEdgesTest.class, RefusalsTest.class,
+            FaceTest.class, LanguageTest.class, ModelTest.class);
 
     private AllTests() {
     }
