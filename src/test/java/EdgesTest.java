@@ -20,8 +20,9 @@ final class EdgesTest {
         TailorBench x = CUT.often(503, "bell()").shop();
         c.same("the 511th call", x.bell(), 504);
         c.same("the 512th call", x.cloth(60, 0, 0, 0, false, 1), 1);
-        TailorBench y = FULL.then("shut(true)").often(512 - 45, "bell()").shop();
-        c.that("many calls of other objects", y.shut(true));
+        int bells = 511 - FULL.size();
+        c.same("the 512th call of a full shop", FULL.often(bells, "bell()").shop().bell(),
+                bells + 2);
     }
 
     // ---- section 1, promises 2 to 5
@@ -279,6 +280,16 @@ final class EdgesTest {
         c.runs(priced(200, 9).then("cut(0, -1, 0)").then(fit), "give(0) = 6");
     }
 
+    static void promise13AnEighthAboveAWholeNumber(Check c) {
+        // A height of 111 by 7 eighths is 97.125, so that NEEDS are 100.125; of 110 they are 99.25.
+        Story eighth = Story.of("person(80, 80, 80, 111)", "style()", "piece(0, 1, 37, 0, 1)",
+                "cloth(100, 1000, 0, 0, true, 1)", "hand(16)", "order(0, 0, 400)");
+        String[] fit = {"cut(0, -1, 0)", "sew(0, 0)", "pass(1)", "fit(0)"};
+        c.runs(eighth.then(fit), "ofCloth(0, 1) = 899.875", "give(0) = 23");
+        c.runs(eighth.then("measure(0, 3, 110)").then(fit), "ofCloth(0, 1) = 900.75",
+                "give(0) = 24");
+    }
+
     static void promise13HalfForEachOfTwo(Check c) {
         // On a CLOTH of 100 by a PIECE WIDE 73 there is a ROW for each: NEEDS are both LONGS.
         String[] others = {"style()", "piece(1, 17, 38, 0, 1)", "order(0, 1, 400)",
@@ -427,6 +438,30 @@ final class EdgesTest {
                 "cut(0, 1, 1) = -3.0");
     }
 
+    static void promise27TheLeastThatIsSaved(Check c) {
+        // On 100: the one is 60 by 83, the other one 40 by 23 and 50 by 22.875, alone in a ROW. Both:
+        // the 40 goes beside the 60, so that the 50 begins a ROW an eighth lower.
+        Story eighth = Story.of("person(80, 80, 159, 160)", "style()", "piece(0, 5, 34, 28, 1)",
+                "style()", "piece(1, 3, 31, 28, 1)", "piece(1, 4, 21, 28, 1)", "order(0, 0, 0)",
+                "order(0, 1, 0)", "cloth(100, 1000, 0, 0, true, 1)");
+        c.runs(eighth, "lay(0, -1, 0, 0) = 83.0", "lay(1, -1, 0, 0) = 23.0",
+                "lay(0, 1, 0, 0) = 105.875", "mate(0, 0) = 1", "mate(1, 0) = 0");
+        // As high as the 40, the 50 goes first, and its ROW stays.
+        c.runs(eighth.then("measure(0, 2, 160)"), "lay(1, -1, 0, 0) = 23.0",
+                "lay(0, 1, 0, 0) = 106.0", "mate(0, 0) = -1", "mate(1, 0) = -1");
+    }
+
+    static void promise27NothingIsSavedWhereMoreIsNeeded(Check c) {
+        // 51 by 43 and 27 by 63 lie in one ROW, as do 44 by 163 and 63 by 43, TURNED. Both: the 27
+        // takes the ROOM beside the 44, and the others are left with a ROW each.
+        Story more = Story.of("person(80, 80, 80, 160)", "style()", "piece(0, 4, 4, 32, 1)",
+                "piece(0, 2, 33, 16, 1)", "style()", "piece(1, 6, 4, 0, 1)",
+                "piece(1, 4, 38, 4, 1)", "order(0, 0, 0)", "order(0, 1, 0)",
+                "cloth(100, 3000, 0, 0, false, 1)");
+        c.runs(more, "lay(0, -1, 0, 0) = 63.0", "lay(1, -1, 0, 0) = 163.0",
+                "lay(0, 1, 0, 0) = 249.0", "mate(0, 0) = -1", "mate(1, 0) = -1");
+    }
+
     static void promise27MateOfEveryState(Check c) {
         for (Story story : new Story[] {TOLD, CUT, SEWN, FITTED, Stories.GIVEN, Stories.SPOILED}) {
             String state = Story.answer(story.shop(), "ofOrder(0, 3)");
@@ -448,6 +483,7 @@ final class EdgesTest {
         c.runs(none.then("hand(7)", "hand(16)", "cut(0, 1, 0)", "sew(0, 1)"), "soonest(1) = 1");
         for (Story story : new Story[] {TOLD, CUT, SEWN, FITTED, Stories.GIVEN, Stories.SPOILED}) {
             c.runs(story.then("shut(true)", "hand(1)"), "soonest(0) = 0");
+            c.runs(story.then("shut(true)", "hand(16)"), "soonest(0) = 1");
         }
     }
 

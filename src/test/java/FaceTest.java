@@ -97,6 +97,22 @@ final class FaceTest {
                 && made[0].getExceptionTypes().length == 0);
     }
 
+    static void nothingTakesMoreThanSevenParameters(Check c) {
+        takesFew(c, TailorBench.class);
+        for (Class<?> inside : TailorBench.class.getDeclaredClasses()) {
+            takesFew(c, inside);
+        }
+    }
+
+    private static void takesFew(Check c, Class<?> one) {
+        for (Method method : one.getDeclaredMethods()) {
+            c.that(method + " takes too many", method.getParameterCount() <= 7);
+        }
+        for (Constructor<?> made : one.getDeclaredConstructors()) {
+            c.that(made + " takes too many", made.getParameterCount() <= 7);
+        }
+    }
+
     static void fieldsArePrivateAndStaticsFinal(Check c) {
         for (Field field : TailorBench.class.getDeclaredFields()) {
             c.that(field + " is private", Modifier.isPrivate(field.getModifiers()));

@@ -204,6 +204,13 @@ final class RefusalsTest {
         c.undone(SHUT, STATE, "cut(0, -1, 0)", "cut(0, 1, 0)", "cut(2, -1, 0)", "cut(0, -1, 3)",
                 "cut(0, 2, 0)");
         c.undone(TOLD.then("shut(true)"), STATE, "cut(0, -1, 0)");
+        // Whether there is a LAY, or LENGTH enough, is not asked then; nor if the other is not TOLD.
+        Story wide = Story.of("person(200, 50, 50, 200)", "style()", "piece(0, 8, 38, 0, 1)",
+                "style()", "piece(1, 11, 11, 0, 1)", "cloth(160, 3000, 0, 0, false, 1)",
+                "order(0, 0, 0)", "order(0, 1, 0)");
+        c.undone(wide.then("shut(true)"), STATE, "cut(0, -1, 0)", "cut(0, 1, 0)");
+        c.undone(wide.then("cut(1, -1, 0)"), STATE, "cut(0, 1, 0)", "cut(1, 0, 0)");
+        c.undone(TOLD.then("cloth(100, 0, 0, 0, true, 1)", "shut(true)"), STATE, "cut(0, -1, 1)");
         c.undone(TOLD.then("shut(true)", "shut(true)"), STATE, "cut(0, -1, 0)");
         c.runs(TOLD.then("shut(true)", "shut(false)"), "cut(0, -1, 0) = 917.0");
     }

@@ -45,6 +45,11 @@ final class Story {
         return then(more);
     }
 
+    /** How many calls it is. */
+    int size() {
+        return calls.size();
+    }
+
     TailorBench shop() {
         TailorBench x = new TailorBench();
         for (String call : calls) {
