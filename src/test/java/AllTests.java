@@ -8,17 +8,18 @@ import java.util.List;
 
 /** Runs every static method of the test classes that takes a Check; ends with 1 if one fails. */
 public final class AllTests {
-    private static final List<Class<?>> CLASSES = List.of(
+    static final List<Class<?>> CLASSES = List.of(
             ClothsPeopleStylesTest.class, OrdersTest.class, AskedTest.class, LayTest.class,
             WouldBeTest.class, EdgesTest.class, LayEdgesTest.class, RefusalsTest.class,
-            FaceTest.class, LanguageTest.class, ModelTest.class);
+            FaceTest.class, LanguageTest.class, ReadmeTest.class, ModelTest.class);
 
     private AllTests() {
     }
 
-    /** The first argument is the path of the program's source, for LanguageTest. */
+    /** The arguments are the paths of the program's source and of its README, for the tests of both. */
     public static void main(String[] args) throws IllegalAccessException {
         LanguageTest.source = args.length > 0 ? args[0] : "src/main/java/TailorBench.java";
+        ReadmeTest.readme = args.length > 1 ? args[1] : "README.md";
         int passed = 0;
         int failed = 0;
         for (Class<?> tests : CLASSES) {
